@@ -27,7 +27,7 @@ public final class CordCart {
     private static final int QUARTERS = 4;
     private static final int[] AHEAD_X = {1, 0, -1, 0};
     private static final int[] AHEAD_Y = {0, 1, 0, -1};
-    private static final int GO = 0, REST = 1, DO = 2, FACE = 3, PART_KINDS = 4;
+    private static final int GO = 0, REST = 1, DO = 2, FACE = 3;
     private static final int MOST_PARTS = 20, LONGEST_PART = 99, LOST_GO = -100;
     private static final int AHEAD = 0, ASTERN = 1, TURN_LEFT = 2, TURN_RIGHT = 3;
 
@@ -810,8 +810,9 @@ public final class CordCart {
         final int[][] kinds = new int[AXLES][MOST_SEGMENTS];
         final int[] places = new int[AXLES];
         private final int[] lefts = new int[AXLES];
-        final boolean[] hasEnded = new boolean[AXLES];
         int unit;
+        /** Of the units that were given last: which axles ended a segment, and how the drum turned. */
+        final boolean[] hasEnded = new boolean[AXLES];
         int drumTurn;
 
         Run(Cart cart, Pose start) {
@@ -828,10 +829,8 @@ public final class CordCart {
         void restart() {
             pose.become(start);
             unit = 0;
-            drumTurn = 0;
             for (int axle = 0; axle < AXLES; axle++) {
                 goToSegment(axle, 0);
-                hasEnded[axle] = false;
             }
         }
 

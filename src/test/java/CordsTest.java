@@ -77,6 +77,13 @@ public final class CordsTest {
         Check.due("begun: hard of the tape", x.hard(2), 7);
         Check.due("begun: peg of the tape", x.count(1), 1);
         Check.due("begun: the old cell is free", x.block(4, 4), 1);
+        for (int cell : new int[] {0, 31}) {
+            x.block(cell, cell);
+            x.peg(cell, 9);
+            x.begin();
+            Check.due("begun: the corner is free", x.start(cell, cell, 0), 0);
+            Check.due("begun: no peg to take out", x.peg(cell, 0), -1);
+        }
     }
 
     private static void wind() {
@@ -173,6 +180,7 @@ public final class CordsTest {
         Check.due("again", x.peg(400, 0), -1);
         Check.due("room again", x.peg(100, 1), 12);
         Check.due("count(1)", x.count(1), 12);
+        Check.due("one with ACT 1 taken out", x.peg(100, 0), 11);
         x.wind(2, 0, 5, 0);
         x.show();
         Check.due("the last told act is done", x.acted(2, 0), 9);

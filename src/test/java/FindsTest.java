@@ -6,6 +6,7 @@ public final class FindsTest {
         spot();
         spotless();
         miss();
+        firstRuns();
         fillings();
         fillingsOfMany();
         filling();
@@ -51,6 +52,14 @@ public final class FindsTest {
 
     private static void miss() {
         CordCart x = new CordCart();
+        x.start(20, 7, 8);
+        windBoth(x, FORTH, 15);
+        int[] units = {9, 3, 12, 1, 7, 3, 15, 2, 14, 5};
+        for (int i = 0; i < units.length; i++) {
+            x.spot(units[i], 20 - units[i], 7);
+            Check.due("told in no order: " + i, x.miss(), 0);
+        }
+        x.begin();
         windBoth(x, FORTH, 5);
         x.wind(2, SLACK, 9, 0);
         // Told in no order.
@@ -91,6 +100,26 @@ public final class FindsTest {
         x.sand(0, 1);
         x.hold(1);
         Check.due("without slips", x.miss(), 1);
+    }
+
+    /** Each find is the first call that runs the cart. */
+    private static void firstRuns() {
+        for (int find = 0; find < 6; find++) {
+            CordCart x = new CordCart();
+            x.start(9, 9, 0);
+            windBoth(x, BACK, 2);
+            windBoth(x, SLACK, 2);
+            windBoth(x, SLACK, 2);
+            x.spot(6, 7, 9);
+            switch (find) {
+                case 0: Check.due("fillings() at first", x.fillings(), 1); break;
+                case 1: Check.due("filling(0) at first", x.filling(0), 0); break;
+                case 2: Check.due("slips() at first", x.slips(), 4); break;
+                case 3: Check.due("slip(3) at first", x.slip(3), 101); break;
+                case 4: Check.due("pair() at first", x.pair(), 1); break;
+                default: Check.due("miss() at first", x.miss(), 0); break;
+            }
+        }
     }
 
     private static void fillings() {

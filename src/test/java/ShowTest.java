@@ -62,7 +62,9 @@ public final class ShowTest {
         Check.due("PLACE is ahead of UNABLE", x.sand(0, 3), -13);
         Check.due("10", x.sand(0, 2), -5);
         x.put(0, 0, -1);
-        Check.due("-1", x.sand(0, 1), -5);
+        x.put(0, 1, 1);
+        Check.due("-1", x.sand(0, 2), -5);
+        x.put(0, 1, 0);
         x.put(0, 0, 0);
         Check.due("only 0", x.sand(0, 2), -5);
         Check.due("the host's refusals", x.count(6), 9);
@@ -158,6 +160,21 @@ public final class ShowTest {
         dueWhere("then the left one", x, 17, 10500 + 8 * 462 + 2000 + 5 * 462, 10500 - 191 + 6 * 191, 1, -3, 0);
         dueWhere("then the left one", x, 18, 10500 + 8 * 462 + 2000 + 6 * 462, 10500 - 191 + 7 * 191, 0, 0, 0);
         dueWhere("then the left one", x, 19, 10500 + 8 * 462 + 2000 + 6 * 462 + 500, 10500 - 191 + 7 * 191, 0, -1, 0);
+        x.unwind(0);
+        x.unwind(1);
+        x.start(10, 10, 0);
+        x.wind(0, 1, 3, 0);
+        x.wind(1, 2, 3, 0);
+        x.wind(1, 0, 9, 0);
+        // From PHASE 3 it is one unit more of the right wheel to DIRECTION 1.
+        dueWhere("left wheel astern", x, 5, 10500 - 1500 + 500 + 462, 10500 + 191, 1, 1, 0);
+        x.unwind(0);
+        x.unwind(1);
+        x.wind(0, 0, 3, 0);
+        x.wind(1, 2, 3, 0);
+        x.wind(1, 0, 9, 0);
+        dueWhere("left, then right", x, 10, 10500 + 1500 + 7 * 500, 10500, 1, 0, 0);
+        dueWhere("left, then right", x, 9, 10500 + 1500 + 6 * 500, 10500, 0, 3, 0);
         x.unwind(0);
         x.unwind(1);
         x.wind(0, 1, 200, 0);

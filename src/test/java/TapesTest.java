@@ -155,6 +155,10 @@ public final class TapesTest {
         Check.due("a row", x.toss(0), -12);
         x.keep(0);
         Check.due("two", x.toss(0), 2);
+        x.unwind(0);
+        x.keep(1);
+        Check.due("one", x.toss(1), 1);
+        x.back(0);
         x.fill(0);
         Check.due("two on the tape still", x.toss(0), 2);
         x.keep(1);

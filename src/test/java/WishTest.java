@@ -166,12 +166,31 @@ public final class WishTest {
                         dueCord(when, x, 1, turns == 3 ? BACK : FORTH, units);
                         dueCord(when, x, 2, SLACK, units);
                     }
+                    x.wish(0, 5, 2);
+                    int ahead = to % 2 == 0 ? 3 : 3 + 4 * d;
+                    Check.due(when + ", and on", x.make(), units + ahead);
+                    int kind = to == 0 || to == 3 ? FORTH : BACK;
+                    int last = x.count(0) > 0 ? lastKind(x, 0) : -1;
+                    Check.due(when + ", and on: the last kind", last, kind);
+                    x.show();
+                    Check.due(when + ", and on: x", x.pose(0), 5500);
+                    x.wishless();
+                    x.wish(3, to, 0);
+                    x.make();
                     x.show();
                     Check.due(when + ": direction", x.pose(2), 4 * to);
                     Check.due(when + ": phase", x.pose(3), 0);
                 }
             }
         }
+    }
+
+    private static int lastKind(CordCart x, int axle) {
+        int i = 0;
+        while (x.segment(axle, i + 1, 0) >= 0) {
+            i++;
+        }
+        return x.segment(axle, i, 0);
     }
 
     private static void makeGoes() {
@@ -302,6 +321,28 @@ public final class WishTest {
         x.wishless();
         x.wish(0, 21, 20);
         Check.due("41 of them", x.make(), -2);
+        x.begin();
+        mirroredStair(x);
+        x.start(0, 0, 4);
+        x.wish(0, 20, 20);
+        // Now the left wheel has 39, and the right one F 9, B 1, F 8, B 1, F 35 .. F 9: 41.
+        Check.due("41 on the right wheel alone", x.make(), -2);
+        x.wishless();
+        x.wish(0, 19, 20);
+        Check.due("one step less", x.make(), 39 + 38 * 8);
+        Check.due("40 on the right wheel", x.unwind(1), 40);
+        Check.due("38 on the left wheel", x.unwind(0), 38);
+    }
+
+    /** The stair of stair() with x and y changed. */
+    private static void mirroredStair(CordCart x) {
+        for (int cx = 0; cx < 32; cx++) {
+            for (int cy = 0; cy < 32; cy++) {
+                if (cx != cy && cx != cy - 1) {
+                    x.block(cx, cy);
+                }
+            }
+        }
     }
 
     private static void reads() {
@@ -329,6 +370,12 @@ public final class WishTest {
         x.unwind(2);
         x.wind(2, 2, 2, 0);
         Check.due("wound by hand", x.reads(), 1);
+        for (int wheel = 0; wheel < 2; wheel++) {
+            x.unwind(wheel);
+            x.wind(wheel, 1, 2, 0);
+            Check.due("another wheel " + wheel, x.reads(), 0);
+            x.make();
+        }
         x.start(4, 4, 0);
         Check.due("from another start", x.reads(), 0);
         x.start(0, 7, 0);
