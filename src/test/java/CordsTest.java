@@ -82,7 +82,9 @@ public final class CordsTest {
             x.peg(cell, 9);
             x.begin();
             Check.due("begun: the corner is free", x.start(cell, cell, 0), 0);
-            Check.due("begun: no peg to take out", x.peg(cell, 0), -1);
+            Check.due("begun: no peg there any more", x.peg(cell, 5), 1);
+            Check.due("begun: the one to take out", x.peg(cell, 0), 0);
+            Check.due("begun: no other to take out", x.peg(cell, 0), -1);
         }
     }
 

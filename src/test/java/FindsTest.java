@@ -383,8 +383,17 @@ public final class FindsTest {
                 x.wind(axle, FORTH, 1, 0);
             }
         }
+        Check.due("all slips", x.slips(), 117);
+        Check.due("the last slip", x.slip(116), 238);
+        x.start(0, 9, 0);
+        x.spot(31, 31, 9);
+        x.spot(30, 30, 9);
+        x.fall(31);
+        Check.due("the first behind FALL", x.pair(), firstPairByHand(x));
+        x.fall(2000);
         x.hard(8);
         x.start(0, 0, 0);
+        x.spotless();
         for (int unit = 1; unit <= 12; unit++) {
             x.spot(unit, unit, 0);
         }

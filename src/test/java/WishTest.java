@@ -11,6 +11,7 @@ public final class WishTest {
         makeFaces();
         makeGoes();
         makeLongOnes();
+        makeWinding();
         makeRefusals();
         reads();
         Check.done("WishTest");
@@ -267,6 +268,31 @@ public final class WishTest {
         x.wish(1, 1, 0);
         x.make();
         dueCord("one above 200", x, 0, SLACK, 200, SLACK, 1);
+    }
+
+    /** Rows of cells with walls between, open at their far and near ends by turns. */
+    private static void makeWinding() {
+        CordCart x = new CordCart();
+        for (int cy = 1; cy < 32; cy += 2) {
+            for (int cx = 0; cx < 32; cx++) {
+                if (cx != (cy % 4 == 1 ? 31 : 0)) {
+                    x.block(cx, cy);
+                }
+            }
+        }
+        x.hard(1);
+        Check.due("to the far end of the last row", x.way(0, 0, 0, 0, 30), 16 * 31 + 15 * 2 + 30 * 4);
+        Check.due("to its near end", x.way(0, 0, 0, 31, 30), 15 * 31 + 15 * 2 + 29 * 4);
+        x.wish(0, 31, 20);
+        Check.due("eleven rows", x.make(), 11 * 31 + 10 * 2 + 20 * 4);
+        x.show();
+        Check.due("x", x.pose(0), 31500);
+        Check.due("y", x.pose(1), 20500);
+        Check.due("never astray", x.pose(8), 0);
+        dueCord("eleven rows", x, 0, FORTH, 31, BACK, 4, FORTH, 2, BACK, 4, FORTH, 31, BACK, 10, FORTH, 31, BACK, 4,
+            FORTH, 2, BACK, 4, FORTH, 31, BACK, 10, FORTH, 31, BACK, 4, FORTH, 2, BACK, 4, FORTH, 31, BACK, 10,
+            FORTH, 31, BACK, 4, FORTH, 2, BACK, 4, FORTH, 31, BACK, 10, FORTH, 31, BACK, 4, FORTH, 2, BACK, 4,
+            FORTH, 31, BACK, 10, FORTH, 31);
     }
 
     private static void makeRefusals() {
