@@ -1,73 +1,77 @@
 import com.sun.management.ThreadMXBean;
 import java.lang.management.ManagementFactory;
 
-/** All calls of a run share one room: no call may make objects, but for those that throw. */
+/** All calls of a run live in one room: some 600,000 objects, and 7.3 million fields and elements. */
 public final class RoomTest {
     private static final ThreadMXBean BEAN = (ThreadMXBean) ManagementFactory.getThreadMXBean();
+    private static final int MOST_CALLS = 512;
+    /** An element takes 4 bytes at the least, but for rows of boolean, byte, char and short. */
+    private static final long ROOM = 4L * 7_300_000;
+
+    interface Call {
+        long of(CordCart x);
+    }
 
     private RoomTest() {
     }
 
     public static void main(String[] args) {
-        for (int i = 0; i < 5; i++) {
-            allCalls(new CordCart(), 8);
-        }
-        long before = BEAN.getCurrentThreadAllocatedBytes();
-        CordCart x = new CordCart();
-        long made = BEAN.getCurrentThreadAllocatedBytes() - before;
-        // 7.3 million fields and elements are the room; one object stays far below.
-        Check.due("bytes of a new object are under 400,000 (" + made + ")", made < 400_000 ? 1 : 0, 1);
-        before = BEAN.getCurrentThreadAllocatedBytes();
-        allCalls(x, 8);
-        made = BEAN.getCurrentThreadAllocatedBytes() - before;
-        Check.due("bytes of 450 calls are under 10,000 (" + made + ")", made < 10_000 ? 1 : 0, 1);
+        fits("show()", CordCart::show);
+        fits("where(4000, 0)", x -> x.where(4000, 0));
+        fits("way(0, 0, 0, 31, 31)", x -> x.way(0, 0, 0, 31, 31));
+        fits("reads()", CordCart::reads);
+        fits("miss()", CordCart::miss);
+        fits("slips()", CordCart::slips);
+        fits("slip(0)", x -> x.slip(0));
+        fits("pair()", CordCart::pair);
+        fits("tape(1, 4, 64)", x -> x.tape(1, 4, 64));
+        fits("keep(2)", x -> x.keep(2));
+        fits("back(5)", x -> x.back(5));
+        fits("toss(5)", x -> x.toss(5));
+        fits("copy(4, 0, 4, 0, 64)", x -> x.copy(4, 0, 4, 0, 64));
+        fits("begin()", CordCart::begin);
+        fits("make()", CordCart::make);
+        fitsWithGaps("fillings()", CordCart::fillings);
+        fitsWithGaps("filling(0)", x -> x.filling(0));
+        fitsWithGaps("toss(5)", x -> x.toss(5));
         Check.done("RoomTest");
     }
 
-    private static void allCalls(CordCart x, int times) {
-        for (int i = 0; i < times; i++) {
-            x.begin();
-            x.start(5, 5, 4);
-            for (int k = 0; k < 4; k++) {
-                x.wind(0, k % 4, 20, 1);
-                x.wind(1, 0, 9, 1);
-                x.wind(2, k % 2, 30, 1);
-            }
-            x.spot(9, 5, 9);
-            x.keep(1);
-            x.fillings();
-            x.filling(0);
-            x.fill(1);
-            x.slips();
-            x.slip(0);
-            x.pair();
-            x.miss();
-            x.where(100, 0);
-            x.peg(4, 4);
-            x.block(3, 3);
-            x.tape(0, 1, 9);
-            x.put(0, 0, 9);
-            x.copy(0, 0, 0, 1, 5);
-            x.at(0, 0);
-            x.sand(0, 3);
-            x.hold(2);
-            x.show();
-            x.pose(0);
-            x.wish(0, 31, 31);
-            x.wish(3, 2, 0);
-            x.way(0, 0, 0, 31, 31);
-            x.make();
-            x.reads();
-            x.back(1);
-            x.segment(0, 0, 0);
-            x.unwind(2);
-            x.wishless();
-            x.spotless();
-            x.clear(1);
-            x.count(0);
-            x.cord(0);
-            x.fall(999);
-            x.slipped(0, 0);
+    private static void fits(String name, Call call) {
+        fits(name, call, 0);
+    }
+
+    private static void fitsWithGaps(String name, Call call) {
+        fits(name + " with gaps", call, 6);
+    }
+
+    /** A new object that is told much, and then the one call again and again. */
+    private static void fits(String name, Call call, int gaps) {
+        long before = BEAN.getCurrentThreadAllocatedBytes();
+        CordCart x = new CordCart();
+        int told = tell(x, gaps);
+        for (int i = told; i < MOST_CALLS; i++) {
+            call.of(x);
         }
+        long made = BEAN.getCurrentThreadAllocatedBytes() - before;
+        Check.holds(made + " bytes for " + name + " fit into the room", made < ROOM);
+    }
+
+    private static int tell(CordCart x, int gaps) {
+        x.start(15, 15, 4);
+        x.hard(1);
+        x.fall(4000);
+        x.tape(4, 4, 64);
+        for (int axle = 0; axle < 3; axle++) {
+            for (int i = 0; i < 40; i++) {
+                x.wind(axle, 3 * i < gaps ? Tell.GAP : (i + axle) % 3, 20, 1);
+            }
+        }
+        for (int i = 0; i < 20; i++) {
+            x.wish(0, i, i);
+        }
+        x.keep(5);
+        x.spot(4000, 31, 31);
+        return 4 + 120 + 20 + 2;
     }
 }

@@ -154,6 +154,15 @@ final class RunSentences {
                 Check.due("STEP behind unit " + step[0], x.where(step[0], 4), step[1]);
             }
         });
+        Check.sentence("I", "; a SEGMENT whose length is given is left for the next one.", () -> {
+            for (int left : KINDS) {
+                for (int right : KINDS) {
+                    for (int d = 1; d <= 8; d++) {
+                        dueLikeOneSegment(left, right, d);
+                    }
+                }
+            }
+        });
         Check.sentence("I", "An AXLE that is run out turns 0.", () -> {
             for (int axle = 0; axle < 3; axle++) {
                 CordCart x = new CordCart();
@@ -167,6 +176,24 @@ final class RunSentences {
                 dueWhere("long run out", x, 2000, due);
             }
         });
+    }
+
+    /** SEGMENTS of one KIND that follow one another do what one long one does, behind each unit. */
+    private static void dueLikeOneSegment(int left, int right, int d) {
+        CordCart one = new CordCart();
+        CordCart many = new CordCart();
+        one.hard(d);
+        many.hard(d);
+        one.wind(Tell.LEFT, left, 200, 0);
+        one.wind(Tell.RIGHT, right, 200, 0);
+        Tell.full(many, Tell.LEFT, left, 3, 0);
+        Tell.full(many, Tell.RIGHT, right, 5, 0);
+        for (int unit = 1; unit <= 80; unit++) {
+            for (int what = 0; what <= 3; what++) {
+                String call = "KINDS " + left + " and " + right + ", D " + d + ": where(" + unit + ", " + what + ")";
+                Check.due(call, many.where(unit, what), one.where(unit, what));
+            }
+        }
     }
 
     private static void growing() {
